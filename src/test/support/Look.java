@@ -1,0 +1,113 @@
+import java.util.function.Consumer;
+import java.util.function.ToIntFunction;
+
+/** Tells all that can be found out about an object, by calls that change it too: each probe gets an object of its own. */
+final class Look {
+    static final int[] EXTREMES = {Integer.MIN_VALUE, -1000006, -100, -2, -1, 6, 7, 10, 24, 100, 258, 1000, Integer.MAX_VALUE};
+
+    private Look() {
+    }
+
+    /** Some 200 calls, none of which is a change. */
+    static String at(BowSpeeches x) {
+        StringBuilder told = new StringBuilder();
+        for (int what = 0; what < 10; what++) {
+            told.append(x.count(what)).append(' ');
+        }
+        for (int courtier = 0; courtier < 6; courtier++) {
+            for (int what = 0; what < 4; what++) {
+                told.append(x.courtier(courtier, what)).append(' ');
+            }
+            for (int giver = 0; giver < 6; giver++) {
+                told.append(x.favour(courtier, giver)).append('/').append(x.ifGiven(courtier, giver)).append(' ');
+            }
+        }
+        told.append(speech(x)).append(x.bestBow()).append(' ').append(x.darling()).append(' ').append(x.fault());
+        return told.toString();
+    }
+
+    private static String speech(BowSpeeches x) {
+        StringBuilder told = new StringBuilder("[");
+        for (int eyes = 0; eyes < 3; eyes++) {
+            int groups = x.speech(eyes, 0);
+            told.append(groups).append(',').append(x.speech(eyes, 1)).append(',').append(x.speech(eyes, 3)).append(':');
+            for (int group = 0; group < groups; group++) {
+                told.append(x.word(eyes, group)).append(' ');
+            }
+            for (int sentence = 0; sentence < x.speech(eyes, 2); sentence++) {
+                told.append('(').append(x.sentence(eyes, sentence, 0)).append(x.sentence(eyes, sentence, 3))
+                        .append(x.sentence(eyes, sentence, 2)).append(')');
+            }
+        }
+        return told.append("] ").toString();
+    }
+
+    /** Every bow, from its end: its number, and the pauses by how the breaks shrink the groups. */
+    static String bowsOf(BowSpeeches x) {
+        StringBuilder told = new StringBuilder();
+        for (int beats = 2; beats <= 9; beats++) {
+            x.set(BowSpeeches.BREAK, beats);
+            for (int group = 0; group <= x.speech(0, 0); group++) {
+                told.append(x.word(0, group)).append(' ');
+            }
+        }
+        for (int bow = 0; bow < 25; bow++) {
+            told.append(x.takeBack()).append(' ').append(x.speech(2, 0)).append(' ');
+        }
+        return told.toString();
+    }
+
+    static String historyOf(BowSpeeches x) {
+        StringBuilder told = new StringBuilder();
+        for (int step = 0; step < 7; step++) {
+            told.append(x.undo()).append(' ');
+            for (int what = 0; what < 10; what++) {
+                told.append(x.count(what)).append(' ');
+            }
+            for (int courtier = 0; courtier < 6; courtier++) {
+                told.append(x.courtier(courtier, 0)).append(x.courtier(courtier, 1)).append(' ');
+            }
+            told.append(speech(x));
+        }
+        return told.toString();
+    }
+
+    static String padOf(BowSpeeches x) {
+        StringBuilder told = new StringBuilder();
+        x.hush();
+        told.append(x.fault()).append(' ').append(x.read()).append(' ');
+        for (String more : new String[] {"l", "1", "3l"}) {
+            told.append(x.put(Bows.packed(more))).append(' ').append(x.fault()).append(' ').append(x.read()).append(' ');
+        }
+        return told.append(bowsOf(x)).toString();
+    }
+
+    static String slotOf(BowSpeeches x, int slot) {
+        return x.restore(slot) + " " + at(x);
+    }
+
+    /** Whether the call answers what is due and leaves the object as it would be without the call. */
+    static void changesNothing(String name, Consumer<BowSpeeches> setup, ToIntFunction<BowSpeeches> call, int answer) {
+        Check.due(name, call.applyAsInt(after(setup)), answer);
+        leavesAll(name, setup, call);
+    }
+
+    static void leavesAll(String name, Consumer<BowSpeeches> setup, ToIntFunction<BowSpeeches> call) {
+        Consumer<BowSpeeches> both = x -> {
+            setup.accept(x);
+            call.applyAsInt(x);
+        };
+        Check.due(name + ", then a look,", at(after(both)), at(after(setup)));
+        Check.due(name + ", then the bows,", bowsOf(after(both)), bowsOf(after(setup)));
+        Check.due(name + ", then undo,", historyOf(after(both)), historyOf(after(setup)));
+        Check.due(name + ", then the pad,", padOf(after(both)), padOf(after(setup)));
+        Check.due(name + ", then slot 0,", slotOf(after(both), 0), slotOf(after(setup), 0));
+        Check.due(name + ", then slot 1,", slotOf(after(both), 1), slotOf(after(setup), 1));
+    }
+
+    private static BowSpeeches after(Consumer<BowSpeeches> setup) {
+        BowSpeeches x = new BowSpeeches();
+        setup.accept(x);
+        return x;
+    }
+}
