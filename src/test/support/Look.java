@@ -3,8 +3,6 @@ import java.util.function.ToIntFunction;
 
 /** Tells all that can be found out about an object, by calls that change it too: each probe gets an object of its own. */
 final class Look {
-    static final int[] EXTREMES = {Integer.MIN_VALUE, -1000006, -100, -2, -1, 6, 7, 10, 24, 100, 258, 1000, Integer.MAX_VALUE};
-
     private Look() {
     }
 
@@ -22,22 +20,21 @@ final class Look {
                 told.append(x.favour(courtier, giver)).append('/').append(x.ifGiven(courtier, giver)).append(' ');
             }
         }
-        told.append(speech(x)).append(x.bestBow()).append(' ').append(x.darling()).append(' ').append(x.fault());
+        told.append(speech(x, 0)).append(speech(x, 1)).append(speech(x, 2)).append(x.bestBow()).append(' ').append(x.darling()).append(' ').append(x.fault());
         return told.toString();
     }
 
-    private static String speech(BowSpeeches x) {
+    private static String speech(BowSpeeches x, int eyes) {
         StringBuilder told = new StringBuilder("[");
-        for (int eyes = 0; eyes < 3; eyes++) {
-            int groups = x.speech(eyes, 0);
-            told.append(groups).append(',').append(x.speech(eyes, 1)).append(',').append(x.speech(eyes, 3)).append(':');
-            for (int group = 0; group < groups; group++) {
-                told.append(x.word(eyes, group)).append(' ');
-            }
-            for (int sentence = 0; sentence < x.speech(eyes, 2); sentence++) {
-                told.append('(').append(x.sentence(eyes, sentence, 0)).append(x.sentence(eyes, sentence, 3))
-                        .append(x.sentence(eyes, sentence, 2)).append(')');
-            }
+        int groups = x.speech(eyes, 0);
+        int sentences = x.speech(eyes, 2);
+        told.append(groups).append(',').append(x.speech(eyes, 1)).append(',').append(x.speech(eyes, 3)).append(':');
+        for (int group = 0; group < groups; group++) {
+            told.append(x.word(eyes, group)).append(' ');
+        }
+        for (int sentence = 0; sentence < sentences; sentence++) {
+            told.append('(').append(x.sentence(eyes, sentence, 0)).append(x.sentence(eyes, sentence, 3))
+                    .append(x.sentence(eyes, sentence, 2)).append(')');
         }
         return told.append("] ").toString();
     }
@@ -47,7 +44,8 @@ final class Look {
         StringBuilder told = new StringBuilder();
         for (int beats = 2; beats <= 9; beats++) {
             x.set(BowSpeeches.BREAK, beats);
-            for (int group = 0; group <= x.speech(0, 0); group++) {
+            int groups = x.speech(0, 0);
+            for (int group = 0; group <= groups; group++) {
                 told.append(x.word(0, group)).append(' ');
             }
         }
@@ -65,9 +63,9 @@ final class Look {
                 told.append(x.count(what)).append(' ');
             }
             for (int courtier = 0; courtier < 6; courtier++) {
-                told.append(x.courtier(courtier, 0)).append(x.courtier(courtier, 1)).append(' ');
+                told.append(x.courtier(courtier, 0));
             }
-            told.append(speech(x));
+            told.append(speech(x, 0));
         }
         return told.toString();
     }
