@@ -29,6 +29,23 @@ final class Bows {
         say(x, giver, 0, 1, receiver);
     }
 
+    /** The same sentence again and again, given whenever the speech is full, and at the end. */
+    static void giveTimes(BowSpeeches x, int times, boolean kind, int giver, int receiver) {
+        for (int time = 1; time <= times; time++) {
+            say(x, giver, 0, kind ? 0 : 1, receiver);
+            if (time % 6 == 0 || time == times) {
+                x.give();
+            }
+        }
+    }
+
+    /** One more undo than there can be changes; a bound, so that a test ends whatever the answers are. */
+    static void undoAll(BowSpeeches x) {
+        for (int step = 0; step < 7; step++) {
+            x.undo();
+        }
+    }
+
     /** Up to eight characters as the number that put() asks for. */
     static long packed(String text) {
         long number = 0;

@@ -84,6 +84,10 @@ final class Look {
         return x.restore(slot) + " " + at(x);
     }
 
+    static String slotBowsOf(BowSpeeches x, int slot) {
+        return x.restore(slot) + " " + bowsOf(x);
+    }
+
     /** Whether the call answers what is due and leaves the object as it would be without the call. */
     static void changesNothing(String name, Consumer<BowSpeeches> setup, ToIntFunction<BowSpeeches> call, int answer) {
         Check.due(name, call.applyAsInt(after(setup)), answer);
@@ -101,6 +105,8 @@ final class Look {
         Check.due(name + ", then the pad,", padOf(after(both)), padOf(after(setup)));
         Check.due(name + ", then slot 0,", slotOf(after(both), 0), slotOf(after(setup), 0));
         Check.due(name + ", then slot 1,", slotOf(after(both), 1), slotOf(after(setup), 1));
+        Check.due(name + ", then the bows of slot 0,", slotBowsOf(after(both), 0), slotBowsOf(after(setup), 0));
+        Check.due(name + ", then the bows of slot 1,", slotBowsOf(after(both), 1), slotBowsOf(after(setup), 1));
     }
 
     private static BowSpeeches after(Consumer<BowSpeeches> setup) {
