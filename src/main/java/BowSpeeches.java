@@ -622,7 +622,9 @@ public final class BowSpeeches {
                 if (!isInOrder(three)) {
                     return NOT_IN_ORDER;
                 }
-                toItself |= part(three, GIVER) == part(three, RECEIVER);
+                if (part(three, GIVER) == part(three, RECEIVER)) {
+                    toItself = true;
+                }
             }
             return toItself ? TO_ITSELF : SAYS_SOMETHING;
         }

@@ -1,13 +1,19 @@
+import java.io.IOException;
 import java.lang.reflect.Constructor;
 import java.lang.reflect.Field;
 import java.lang.reflect.Method;
 import java.lang.reflect.Modifier;
+import java.nio.file.Files;
+import java.nio.file.Path;
 import java.util.ArrayList;
 import java.util.Arrays;
 import java.util.List;
+import java.util.Set;
 import java.util.TreeSet;
+import java.util.regex.Matcher;
+import java.util.regex.Pattern;
 
-/** The public face is that of the document and no more, and what of LANGUAGE.md can be seen from outside. */
+/** The public face is that of the document and no more, and what of LANGUAGE.md can be told from the class and its text. */
 public final class FaceTest {
     private static final String[] FACE = {
         "int bestBow()", "int bow(int,int,int)", "int count(int)", "int courtier(int,int)", "int darling()",
@@ -15,10 +21,17 @@ public final class FaceTest {
         "int put(long)", "int read()", "int restore(int)", "int save(int)", "int sentence(int,int,int)",
         "int set(int,int)", "int speech(int,int)", "int takeBack()", "int undo()", "int wipe()", "int word(int,int)"};
 
-    public static void main(String[] args) {
+    private static final String[] RULED_OUT = {"package", "import", "throw", "throws", "try", "catch", "synchronized",
+        "assert", "volatile", "native", "protected", "static\\s*\\{", "->", "::", "\"", "[|&^]=", "getClass", "hashCode",
+        "toString", "equals"};
+    /** Beside the constants, which are written in capitals, the names of classes that the text may hold. */
+    private static final Set<String> CLASSES = Set.of("BowSpeeches", "Court", "Seen", "Pad", "History", "Math");
+
+    public static void main(String[] args) throws IOException {
         constants();
         members();
         insideClasses();
+        text(Files.readString(Path.of("src/main/java/BowSpeeches.java")));
         Check.end();
     }
 
@@ -86,6 +99,23 @@ public final class FaceTest {
         for (Method method : BowSpeeches.class.getDeclaredMethods()) {
             boolean hidden = Modifier.isPrivate(method.getModifiers());
             Check.due("bears a public name: " + method, hidden && names.contains(method.getName()) ? 1 : 0, 0);
+        }
+    }
+
+    private static void text(String source) {
+        String code = source.replaceAll("(?s)/\\*.*?\\*/", "").replaceAll("//[^\n]*", "");
+        for (String ruledOut : RULED_OUT) {
+            String asWord = Character.isLetter(ruledOut.charAt(0)) ? "\\b" : "";
+            boolean found = Pattern.compile(asWord + ruledOut).matcher(code.replaceAll("'.'", "")).find();
+            Check.due("the text holds " + ruledOut, found ? 1 : 0, 0);
+        }
+        Matcher name = Pattern.compile("\\b[A-Z]\\w*[a-z]\\w*").matcher(code);
+        while (name.find()) {
+            Check.due("a class from outside: " + name.group(), CLASSES.contains(name.group()) ? 1 : 0, 1);
+        }
+        Matcher function = Pattern.compile("Math\\.(\\w+)").matcher(code);
+        while (function.find()) {
+            Check.due("a function of Math: " + function.group(1), function.group(1).matches("max|min") ? 1 : 0, 1);
         }
     }
 }
